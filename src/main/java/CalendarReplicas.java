@@ -871,8 +871,8 @@ public final class CalendarReplicas {
 
         /** The bits of the slots of a range that lie in a half, which begins at slot 0 here. */
         private static long bits(int from, int to) {
-            int first = Math.max(0, Math.min(from, HALF));
-            int end = Math.max(0, Math.min(to, HALF));
+            int first = from < 0 ? 0 : from;
+            int end = to > HALF ? HALF : to;
             return end > first ? (1L << end) - (1L << first) : 0;
         }
     }
@@ -887,7 +887,7 @@ public final class CalendarReplicas {
         int value;
         /** The earlier edits with which it clashes. */
         int clashes;
-        /** The CREATE of its meeting; nothing if the meeting is in the base. */
+        /** The CREATE of its meeting; nothing if the meeting is in the base, or this is the CREATE. */
         int needs;
         /** Only a CREATE uses it, but the row is made once for all kinds. */
         final Meeting created = new Meeting();
@@ -1017,7 +1017,7 @@ public final class CalendarReplicas {
         /** Finds out what a draft, which follows the known edits, has to do with the edits before it. */
         void relate(Edit draft, int followed) {
             draft.clashes = 0;
-            draft.needs = draft.kind == CREATE ? 1 << size : 0;
+            draft.needs = 0;
             for (int index = 0; index < size && index < MOST_EDITS; index++) {
                 Edit earlier = edits[index];
                 if (earlier.meeting != draft.meeting) {

@@ -33,7 +33,9 @@ public final class RandomRunsTest {
         for (int call = 6; call < CALLS && !Check.hasFailed(); call++) {
             String at = name + call + ": ";
             int kind = random.nextInt(100);
-            if (kind < 30) {
+            if (m.edits() == 12 && below(12) == 0) {
+                compact(at);
+            } else if (kind < 30) {
                 makeEdit(at);
             } else if (kind < 44) {
                 exchange(at);
@@ -105,6 +107,18 @@ public final class RandomRunsTest {
     private int edit() {
         int count = m.edits();
         return count == 0 || rarely() ? between(0, 30) : m.editAt(below(count));
+    }
+
+    /** Half the time an edit that is blocked or rejected there, if there is one. */
+    private int editOf(int replica) {
+        int first = below(12);
+        for (int i = 0; i < 12 && below(16) != 0; i++) {
+            int edit = m.editAt((first + i) % 12);
+            if (m.state(replica, edit) == 1 || m.state(replica, edit) == 2) {
+                return edit;
+            }
+        }
+        return edit();
     }
 
     private void setRule(String at) {
@@ -192,11 +206,12 @@ public final class RandomRunsTest {
     }
 
     private void compact(String at) {
-        if (below(3) == 0) {
-            for (int i = 0; i < 4; i++) {
-                Check.due(at + "send to all", x.send(i / 2, i / 2 + i % 2 + 1), m.send(i / 2, i / 2 + i % 2 + 1));
+        if (below(3) != 0) {
+            int[][] ways = {{0, 1}, {1, 2}, {2, 1}, {2, 0}};
+            for (int[] way : ways) {
+                Check.due(at + "send(" + way[0] + ", " + way[1] + ")", x.send(way[0], way[1]), m.send(way[0], way[1]));
             }
-            Check.due(at + "send back", x.send(2, 0) + x.send(2, 1), m.send(2, 0) + m.send(2, 1));
+            Check.due(at + "checksum() when all know all", x.checksum(), m.checksum());
         }
         Check.due(at + "compact()", x.compact(), m.compact());
     }
@@ -224,7 +239,7 @@ public final class RandomRunsTest {
 
     private void askEdit(String at) {
         int r = replica();
-        int edit = edit();
+        int edit = editOf(r);
         int other = edit();
         int index = between(0, 12);
         String what = at + "of edit " + edit + " at " + r + ": ";
