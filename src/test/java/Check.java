@@ -30,6 +30,14 @@ final class Check {
         }
     }
 
+    /** Sends until all replicas know all edits; replica 1 passes on what 0 has, and 2 what both have. */
+    static void tellAll(CalendarReplicas x) {
+        x.send(0, 1);
+        x.send(1, 2);
+        x.send(2, 1);
+        x.send(2, 0);
+    }
+
     /** What was printed, up to the first index at which there is nothing. */
     static String page(CalendarReplicas x) {
         StringBuilder page = new StringBuilder();

@@ -22,12 +22,14 @@ public final class DescriptionBoundsTest {
         twoSeries();
         ordersOfMeetingsThatAreThere();
         ordersInACircle();
+        ordersUpToTheFourth();
         numbersOfEdits();
         anEditIsKnownFromThenOn();
         theOrderOfTheNumbers();
         itFollowsAllKnownEdits();
         itDoesNotFollowWhatComesLater();
         theCreateIsNeeded();
+        theCreateIsNeededByTheTwelfthEdit();
         blockedOrNot();
         theGreatestWeight();
         lowestEditOfEvenSums();
@@ -36,6 +38,8 @@ public final class DescriptionBoundsTest {
         anEditThatBringsOthersIn();
         replicasThatKnowTheSame();
         baseStaysValid();
+        theLastOfTwentyFourMeetings();
+        theLastPromisedCall();
         Check.end();
     }
 
@@ -311,6 +315,21 @@ public final class DescriptionBoundsTest {
         }
     }
 
+    /** Each of four orders holds, the first and the last one too, and one that is refused for FULL does not. */
+    private static void ordersUpToTheFourth() {
+        for (int second = 1; second <= 5; second++) {
+            CalendarReplicas x = new CalendarReplicas();
+            for (int i = 1; i <= 5; i++) {
+                Check.due("order " + i, x.addOrder(0, i), i <= 4 ? i : FULL);
+            }
+            x.create(0, 50, 1, 0, 1, 1);
+            for (int i = 1; i < second; i++) {
+                x.create(0, 60 + i, 1, 0, 1, 1);
+            }
+            Check.due("against order " + second, x.create(0, 40, 1, 0, 1, 1), second <= 4 ? NOT : second);
+        }
+    }
+
     // ---- edits
 
     private static void numbersOfEdits() {
@@ -423,6 +442,23 @@ public final class DescriptionBoundsTest {
         Check.due("nor beside the others", x.acceptedWeight(1), 37);
     }
 
+    /** A join that is the twelfth edit would weigh more than its rival, were it not for the create that it needs. */
+    private static void theCreateIsNeededByTheTwelfthEdit() {
+        CalendarReplicas x = new CalendarReplicas();
+        x.create(0, 10, 1, 0, 1, 1);
+        for (int i = 1; i < 10; i++) {
+            x.create(2, 20 + i, 1, 3, 32, 1);
+        }
+        Check.due("a heavy rival of the create", x.create(1, 10, 1, 0, 2, 9), 10);
+        Check.due("the twelfth edit", x.join(0, 0, 3, 5), 11);
+        x.send(0, 1);
+        Check.due("the create", x.state(1, 0), REJECTED);
+        Check.due("the rival", x.state(1, 10), ACCEPTED);
+        Check.due("the twelfth edit cannot be without its create", x.state(1, 11), REJECTED);
+        Check.due("acceptedWeight", x.acceptedWeight(1), 9);
+        Check.due("rejectedWeight", x.rejectedWeight(1), 6);
+    }
+
     private static void blockedOrNot() {
         CalendarReplicas x = new CalendarReplicas();
         x.create(0, 10, 1, 0, 1, 1);
@@ -522,10 +558,7 @@ public final class DescriptionBoundsTest {
 
     private static void replicasThatKnowTheSame() {
         CalendarReplicas x = Scene.makeBusy();
-        x.send(0, 1);
-        x.send(1, 2);
-        x.send(2, 0);
-        x.send(2, 1);
+        Check.tellAll(x);
         for (int replica = 1; replica < 3; replica++) {
             Check.due("meetings", x.meetings(replica), x.meetings(0));
             Check.due("acceptedWeight", x.acceptedWeight(replica), x.acceptedWeight(0));
@@ -555,5 +588,44 @@ public final class DescriptionBoundsTest {
         Check.due("an order for it and the base", x.addOrder(2, 0), 2);
         Check.due("it is rejected", x.state(0, 2), REJECTED);
         Check.due("the base is not", x.meetings(0), 1);
+    }
+
+    /** 12 meetings in the base and 11 of edits: the rules hold for the last one as for the others. */
+    private static void theLastOfTwentyFourMeetings() {
+        Scene scene = new Scene("23 meetings", () -> {
+            CalendarReplicas x = new CalendarReplicas();
+            for (int i = 0; i < 12; i++) {
+                x.create(0, 2 * i, 1, i % 4, 1 << i % 6, 1);
+            }
+            x.send(0, 1);
+            x.send(0, 2);
+            x.compact();
+            for (int i = 12; i < 23; i++) {
+                x.create(0, 2 * i, 1, i % 4, 1 << i % 6, 1);
+            }
+            return x;
+        });
+        scene.answers("meetings", x -> x.meetings(0), 23);
+        scene.refused("create in the room of one of the base", x -> x.create(0, 0, 1, 0, 2, 9), NOT);
+        scene.refused("create in the room of one of an edit", x -> x.create(0, 44, 1, 2, 1, 9), NOT);
+        scene.refused("create with a person of one of the base", x -> x.create(0, 0, 1, 3, 1, 9), NOT);
+        scene.refused("create over the end", x -> x.create(0, 95, 2, 0, 1, 9), NOT);
+        scene.answers("create where there is nothing", x -> x.create(0, 46, 1, 2, 32, 9), 23);
+    }
+
+    /** An object is promised to answer 512 calls; numbers, bases and edits go on up to the last one. */
+    private static void theLastPromisedCall() {
+        CalendarReplicas x = new CalendarReplicas();
+        Check.due("call 1", x.create(0, 0, 1, 0, 1, 1), 0);
+        Check.due("call 2", x.send(0, 1), 1);
+        Check.due("call 3", x.send(0, 2), 1);
+        Check.due("call 4", x.compact(), 1);
+        for (int round = 1; round <= 127; round++) {
+            String call = "call 4 * " + round + " + ";
+            Check.due(call + 1, x.move(0, 0, round % 96, 1), round);
+            Check.due(call + 2, x.send(0, 1), 1);
+            Check.due(call + 3, x.send(1, 2), 1);
+            Check.due(call + 4, round < 127 ? x.compact() : x.startOf(2, 0), round < 127 ? 1 : 127 % 96);
+        }
     }
 }

@@ -37,6 +37,7 @@ public final class EditsAsTheyAreBoundsTest {
         clashOfPersons();
         clashWithAnEarlierCancel();
         clashOnlyOfTheSameMeeting();
+        clashOfTheTwelfthEdit();
         stateRefused();
         stateOfEachSort();
         stateInABase();
@@ -50,13 +51,6 @@ public final class EditsAsTheyAreBoundsTest {
         Check.end();
     }
 
-    private static void tell(CalendarReplicas x) {
-        x.send(0, 1);
-        x.send(1, 2);
-        x.send(2, 1);
-        x.send(2, 0);
-    }
-
     // ---- promises 25 and 26
 
     private static void editsSinceCompact() {
@@ -68,7 +62,7 @@ public final class EditsAsTheyAreBoundsTest {
         }
         x.create(0, 90, 1, 0, 1, 1);
         Check.due("12 are the most", x.edits(), 12);
-        tell(x);
+        Check.tellAll(x);
         Check.due("sending makes none", x.edits(), 12);
         x.compact();
         Check.due("after compact", x.edits(), 0);
@@ -128,7 +122,7 @@ public final class EditsAsTheyAreBoundsTest {
         Check.due("meetingOf " + name, x.meetingOf(1), kind == CalendarReplicas.CREATE ? 1 : 0);
         Check.due("authorOf " + name, x.authorOf(1), 2);
         Check.due("weightOf " + name, x.weightOf(1), 7);
-        tell(x);
+        Check.tellAll(x);
         Check.due("its author when all know it", x.authorOf(1), 2);
     }
 
@@ -195,7 +189,7 @@ public final class EditsAsTheyAreBoundsTest {
             for (int high = CalendarReplicas.MOVE; high <= CalendarReplicas.CANCEL; high++) {
                 CalendarReplicas x = new CalendarReplicas();
                 x.create(0, 10, 2, 0, 3, 1);
-                tell(x);
+                Check.tellAll(x);
                 String pair = "kinds " + low + " and " + high + (follows ? ", which follows" : "");
                 Check.due(pair + ": the lower one", makeOf(x, 1, low), 1);
                 if (follows) {
@@ -213,7 +207,7 @@ public final class EditsAsTheyAreBoundsTest {
                 Check.due(pair + ": clash", x.clash(1, 2), clash ? 1 : 0);
                 Check.due(pair + ": clash the other way", x.clash(2, 1), clash ? 1 : 0);
                 Check.due(pair + ": with the create", x.clash(0, 1) + x.clash(0, 2) + x.clash(1, 0), 0);
-                tell(x);
+                Check.tellAll(x);
                 Check.due(pair + ": both of the same weight", x.acceptedWeight(0), clash ? 2 : 3);
                 Check.due(pair + ": the lower one wins", x.state(0, 1), ACCEPTED);
             }
@@ -274,6 +268,34 @@ public final class EditsAsTheyAreBoundsTest {
         }
     }
 
+    /** The edits between belong to a replica of their own, so that the twelfth one does not follow the first move. */
+    private static void clashOfTheTwelfthEdit() {
+        CalendarReplicas x = new CalendarReplicas();
+        x.create(0, 10, 1, 0, 1, 1);
+        x.send(0, 1);
+        x.move(0, 0, 20, 2);
+        for (int i = 2; i < 11; i++) {
+            x.create(2, 40 + i, 1, 3, 32, 1);
+        }
+        Check.due("the twelfth edit", x.move(1, 0, 30, 1), 11);
+        Check.due("clash(1, 11)", x.clash(1, 11), 1);
+        Check.due("clash(11, 1)", x.clash(11, 1), 1);
+        for (int other : new int[] {0, 2, 10}) {
+            Check.due("clash(" + other + ", 11)", x.clash(other, 11), 0);
+            Check.due("clash(11, " + other + ")", x.clash(11, other), 0);
+        }
+        Check.due("clash(11, 11)", x.clash(11, 11), BAD);
+        Check.due("clash(11, 12)", x.clash(11, 12), BAD);
+        x.send(0, 1);
+        Check.due("the move of more weight", x.state(1, 1), ACCEPTED);
+        Check.due("the twelfth edit", x.state(1, 11), REJECTED);
+        Check.due("acceptedWeight", x.acceptedWeight(1), 3);
+        Check.due("startOf", x.startOf(1, 0), 20);
+        Check.due("its obstacle", x.obstacle(1, 11), 1);
+        Check.due("its cost", x.cost(1, 11), 1);
+        Check.due("at any start it would clash", x.alternative(1, 11), CalendarReplicas.NONE);
+    }
+
     // ---- promise 32
 
     private static void stateRefused() {
@@ -310,7 +332,7 @@ public final class EditsAsTheyAreBoundsTest {
     private static void stateInABase() {
         CalendarReplicas x = new CalendarReplicas();
         x.create(0, 0, 1, 0, 1, 1);
-        tell(x);
+        Check.tellAll(x);
         x.compact();
         x.move(0, 0, 5, 1);
         x.move(0, 0, 6, 1);
@@ -341,7 +363,7 @@ public final class EditsAsTheyAreBoundsTest {
         CalendarReplicas x = new CalendarReplicas();
         x.create(0, 0, 1, 0, 1, 9);
         Check.due("what others know does not count", x.acceptedWeight(1) + x.rejectedWeight(1), 0);
-        tell(x);
+        Check.tellAll(x);
         Check.due("what is accepted", x.acceptedWeight(1), 9);
         x.compact();
         Check.due("the base weighs nothing", x.acceptedWeight(1) + x.rejectedWeight(1), 0);
@@ -359,7 +381,7 @@ public final class EditsAsTheyAreBoundsTest {
             y.create(0, i, 1, 0, 1, 9);
             y.create(1, i, 1, 0, 2, 8);
         }
-        tell(y);
+        Check.tellAll(y);
         for (int replica = 0; replica < 3; replica++) {
             Check.due("6 edits of the weight 9", y.acceptedWeight(replica), 54);
             Check.due("6 edits of the weight 8", y.rejectedWeight(replica), 48);

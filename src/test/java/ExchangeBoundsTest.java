@@ -187,24 +187,17 @@ public final class ExchangeBoundsTest {
         Check.due("the first number", x.create(0, 0, 1, 0, 1, 1), 0);
     }
 
-    private static void tell(CalendarReplicas x) {
-        x.send(0, 1);
-        x.send(1, 2);
-        x.send(2, 1);
-        x.send(2, 0);
-    }
-
     private static CalendarReplicas meetings(int count) {
         CalendarReplicas x = new CalendarReplicas();
         for (int i = 0; i < 12; i++) {
             x.create(0, 2 * i, 1, i % 4, 1 << i % 6, 1);
         }
-        tell(x);
+        Check.tellAll(x);
         x.compact();
         for (int i = 12; i < count; i++) {
             x.create(i % 3, 2 * i, 1, i % 4, 1 << i % 6, 1);
         }
-        tell(x);
+        Check.tellAll(x);
         return x;
     }
 
@@ -214,9 +207,9 @@ public final class ExchangeBoundsTest {
         Check.due("no edits", x.edits(), 0);
         Check.due("compact again", x.compact(), 12);
         x.create(1, 90, 1, 0, 1, 1);
-        tell(x);
+        Check.tellAll(x);
         x.cancel(2, 3, 1);
-        tell(x);
+        Check.tellAll(x);
         Check.due("one new and one cancelled meeting", x.compact(), 12);
         Check.due("the new one", x.startOf(0, 12), 90);
         Check.due("the cancelled one", x.startOf(0, 3), BAD);
@@ -233,10 +226,10 @@ public final class ExchangeBoundsTest {
         CalendarReplicas x = meetings(12);
         Check.due("a meeting", x.create(0, 90, 1, 0, 1, 5), 12);
         Check.due("one in its place", x.create(1, 90, 1, 0, 2, 4), 13);
-        tell(x);
+        Check.tellAll(x);
         Check.due("the lighter one is rejected", x.state(2, 13), REJECTED);
         Check.due("cancel of one of the base", x.cancel(0, 0, 1), 14);
-        tell(x);
+        Check.tellAll(x);
         Check.due("neither the rejected nor the cancelled one counts", x.compact(), 12);
     }
 
@@ -256,7 +249,7 @@ public final class ExchangeBoundsTest {
 
     private static void compactForgetsRejectedEdits() {
         CalendarReplicas x = Scene.makeBusy();
-        tell(x);
+        Check.tellAll(x);
         Check.due("a rejected meeting", x.state(0, 3), REJECTED);
         Check.due("a rejected move", x.state(2, 5), REJECTED);
         Check.due("two meetings of the base and three of edits", x.compact(), 5);
@@ -279,7 +272,7 @@ public final class ExchangeBoundsTest {
         CalendarReplicas x = new CalendarReplicas();
         x.create(0, 0, 1, 0, 1, 1);
         x.cancel(0, 0, 1);
-        tell(x);
+        Check.tellAll(x);
         Check.due("a meeting that came and went", x.compact(), 0);
         Check.due("no edits", x.edits(), 0);
         Check.due("the next number", x.create(1, 0, 1, 0, 1, 1), 2);
@@ -299,7 +292,7 @@ public final class ExchangeBoundsTest {
                 next++;
             }
             Check.due("12 edits", x.create(0, 90, 1, 0, 1, 1), FULL);
-            tell(x);
+            Check.tellAll(x);
             Check.due("compact", x.compact(), round + 1);
             Check.due("editAt(0)", x.editAt(0), BAD);
         }

@@ -108,10 +108,7 @@ public final class ExchangeTest {
         x.create(2, 3, 1, 0, 1, 6);
         x.cancel(2, 2, 1);
         x.join(1, 1, 4, 1);
-        x.send(0, 1);
-        x.send(1, 2);
-        x.send(2, 1);
-        x.send(2, 0);
+        Check.tellAll(x);
         Check.due("one of three", x.compact(), 1);
         Check.due("the heavier one", x.meetingAt(0, 0), 1);
         Check.due("with its joining person", x.personsOf(2, 1), 17);

@@ -244,10 +244,7 @@ final class Scene {
         for (int i = 0; i < 12; i++) {
             x.create(i % 3, 30 + 2 * i, 1, i % 4, 1 << i % 6, 1);
         }
-        x.send(0, 1);
-        x.send(1, 2);
-        x.send(2, 1);
-        x.send(2, 0);
+        Check.tellAll(x);
         for (int i = 0; i < 4; i++) {
             x.addOrder(i, i + 12);
         }

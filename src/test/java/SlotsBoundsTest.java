@@ -23,6 +23,7 @@ public final class SlotsBoundsTest {
         restoreReturnsTheEdits();
         restoreOfEverything();
         restoreOfRulesAndOrders();
+        restoreOfFourOrders();
         restoreOfTheNextNumber();
         restoreOfWhatFollows();
         restoreLeavesTextPageAndSlots();
@@ -52,10 +53,7 @@ public final class SlotsBoundsTest {
             Check.due("keep(1)", x.keep(1), i);
             x.create(i % 3, i, 1, 0, 1, 1);
         }
-        x.send(0, 1);
-        x.send(1, 2);
-        x.send(2, 1);
-        x.send(2, 0);
+        Check.tellAll(x);
         x.compact();
         Check.due("after compact", x.keep(1), 0);
         Check.due("the other slot", x.restore(0), 12);
@@ -137,10 +135,7 @@ public final class SlotsBoundsTest {
         long busy = x.checksum();
         Check.due("keep", x.keep(1), 7);
         for (int round = 0; round < 3; round++) {
-            x.send(0, 1);
-            x.send(1, 2);
-            x.send(2, 0);
-            x.send(2, 1);
+            Check.tellAll(x);
             x.clearOrders();
             x.compact();
             x.move(0, 2, 80, 9);
@@ -190,6 +185,29 @@ public final class SlotsBoundsTest {
         }
         for (int person = 0; person < 6; person++) {
             Check.due("the absence of " + person, x.setAbsence(person, 0, 0), person + 1);
+        }
+    }
+
+    /** Others take the place of all four, so that a kept one that is not put back is missed. */
+    private static void restoreOfFourOrders() {
+        for (int later = 1; later <= 4; later++) {
+            CalendarReplicas x = new CalendarReplicas();
+            for (int i = 1; i <= 4; i++) {
+                x.addOrder(0, i);
+            }
+            Check.due("keep", x.keep(1), 0);
+            x.clearOrders();
+            for (int i = 1; i <= 4; i++) {
+                x.addOrder(20 + i, 30 + i);
+            }
+            Check.due("restore", x.restore(1), 0);
+            x.create(0, 50, 1, 0, 1, 1);
+            for (int i = 1; i < later; i++) {
+                x.create(0, 60 + i, 1, 0, 1, 1);
+            }
+            Check.due("against order " + later, x.create(0, 49, 1, 0, 1, 1), NOT);
+            Check.due("with order " + later, x.create(0, 51, 1, 0, 1, 1), later);
+            Check.due("a fifth order", x.addOrder(40, 41), FULL);
         }
     }
 
