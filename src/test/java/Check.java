@@ -18,6 +18,11 @@ final class Check {
         due(what, holds ? 1 : 0, 1);
     }
 
+    /** How many answers were looked at. */
+    static int calls() {
+        return calls;
+    }
+
     static boolean hasFailed() {
         return wrong > 0;
     }

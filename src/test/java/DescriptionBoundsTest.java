@@ -36,6 +36,7 @@ public final class DescriptionBoundsTest {
         evenSumsInPairs();
         thePrecedenceOfWeightOverNumbers();
         anEditThatBringsOthersIn();
+        anEditThatTurnsAnEvenSum();
         replicasThatKnowTheSame();
         baseStaysValid();
         theLastOfTwentyFourMeetings();
@@ -554,6 +555,24 @@ public final class DescriptionBoundsTest {
         y.send(1, 0);
         Check.due("the cancel is rejected", y.state(0, 2), REJECTED);
         Check.due("a move that does not help it", y.move(0, 0, 30, 1), 3);
+    }
+
+    /**
+     * 3 is in the way of 2. Without it {0, 2, 3} would weigh as much as {1, 3}, and have the lowest edit: so the move
+     * would weigh as much as is due, but the set would not be the one before and the move.
+     */
+    private static void anEditThatTurnsAnEvenSum() {
+        CalendarReplicas x = new CalendarReplicas();
+        x.create(0, 10, 2, 0, 1, 3);
+        x.create(1, 11, 8, 0, 2, 4);
+        x.create(0, 18, 1, 0, 1, 1);
+        x.create(1, 18, 1, 1, 1, 9);
+        x.send(0, 1);
+        states(x, 1, "0101");
+        Check.due("a move away", x.move(1, 3, 50, 1), NOT);
+        Check.due("a heavy move away", x.move(1, 3, 50, 9), NOT);
+        Check.due("a person more", x.join(1, 3, 5, 1), 4);
+        states(x, 1, "01011");
     }
 
     private static void replicasThatKnowTheSame() {

@@ -48,6 +48,7 @@ public final class EditsAsTheyAreBoundsTest {
         agreeRefused();
         agreeOfEachPair();
         agreeOfOtherEditsOfTheSameNumber();
+        agreeOfRejectedAndBlockedEdits();
         Check.end();
     }
 
@@ -447,5 +448,26 @@ public final class EditsAsTheyAreBoundsTest {
         Check.due("both edits, though one is rejected", x.agree(1, 2), 1);
         x.sendOne(0, 1, 0);
         Check.due("sending what is known", x.agree(1, 2), 1);
+    }
+
+    /** It is what they know that counts, and not what they accept, or what is in their calendars. */
+    private static void agreeOfRejectedAndBlockedEdits() {
+        CalendarReplicas x = new CalendarReplicas();
+        x.create(0, 10, 1, 0, 1, 9);
+        x.create(1, 10, 1, 0, 2, 1);
+        x.send(0, 1);
+        x.send(0, 2);
+        Check.due("the same is accepted", x.acceptedWeight(1), x.acceptedWeight(2));
+        Check.due("but one knows a rejected edit besides", x.agree(1, 2), 0);
+        Check.due("and the other one does not", x.agree(2, 1), 0);
+        CalendarReplicas y = new CalendarReplicas();
+        y.create(0, 10, 1, 0, 1, 9);
+        y.move(0, 0, 20, 1);
+        y.sendOne(0, 1, 1);
+        Check.due("nothing is in the calendars", y.meetings(1) + y.meetings(2), 0);
+        Check.due("but one knows a blocked edit", y.agree(1, 2), 0);
+        Check.due("and the other one knows nothing", y.agree(2, 1), 0);
+        y.send(1, 2);
+        Check.due("both know the blocked edit", y.agree(1, 2), 1);
     }
 }

@@ -36,6 +36,7 @@ public final class EditsBoundsTest {
         textNotPossible();
         textErrorsInTheirOrder();
         theTextStays();
+        withoutAnOptionAfterATextWithIt();
         for (Change change : CHANGES) {
             changeAllowed(change);
             changeRefused(change);
@@ -271,6 +272,35 @@ public final class EditsBoundsTest {
         Check.due("the length that it has", x.append('1'), 10);
         Check.due("with a fault now", x.createFromText(2), BAD);
         Check.due("its length", x.clearText(), 10);
+    }
+
+    /** What a text does not say is as at first, whatever the texts before it said, with a fault or without one. */
+    private static void withoutAnOptionAfterATextWithIt() {
+        String[] before = {"10+2 r3 p45 w9 e20x3", "10+2 r3 p45 w9 e20x3 ", "10+2 e20x3 w9 p45 r3x",
+            "10+2 r3 p45 w9 e49x3"};
+        String[] after = {"50+1", "50+1 r1", "50+1 p1", "50+1 w2", "50+1 e7x2"};
+        for (String first : before) {
+            for (int i = 0; i < after.length; i++) {
+                CalendarReplicas x = with(first);
+                int fault = x.faultPosition();
+                x.createFromText(1);
+                Check.type(x, after[i]);
+                int made = x.createFromText(0);
+                String what = after[i] + " after " + first;
+                Check.due(what + ": the number", made, fault < 0 && !first.contains("e49") ? 1 : 0);
+                Check.due(what + ": roomOf", x.roomOf(0, made), i == 1 ? 1 : 0);
+                Check.due(what + ": personsOf", x.personsOf(0, made), i == 2 ? 2 : 1);
+                Check.due(what + ": weightOf", x.weightOf(made), i == 3 ? 2 : 1);
+                Check.due(what + ": periodOf", x.periodOf(0, made), i == 4 ? 7 : 0);
+                Check.due(what + ": countOf", x.countOf(0, made), i == 4 ? 2 : 1);
+            }
+            CalendarReplicas x = with(first);
+            x.createFromText(1);
+            int made = x.create(0, 50, 1, 2, 8, 3);
+            Check.due("create after " + first + ": periodOf", x.periodOf(0, made), 0);
+            Check.due("create after " + first + ": countOf", x.countOf(0, made), 1);
+            Check.due("create after " + first + ": weightOf", x.weightOf(made), 3);
+        }
     }
 
     // ---- promises 8 to 13

@@ -15,6 +15,7 @@ public final class ExchangeBoundsTest {
         sendBetweenAll();
         sendCounts();
         sendGoesOneWay();
+        sendOfBlockedEdits();
         sendOneRefused();
         sendOneBetweenAll();
         sendOneOfWhatIsKnown();
@@ -89,6 +90,24 @@ public final class ExchangeBoundsTest {
         Check.due("the receiver keeps what it had", x.state(1, 1), ACCEPTED);
         x.move(0, 0, 8, 1);
         Check.due("what comes later is not sent", x.state(1, 2), UNKNOWN);
+    }
+
+    /** What is blocked is known as well: it goes on, and counts, wherever it came from. */
+    private static void sendOfBlockedEdits() {
+        CalendarReplicas x = new CalendarReplicas();
+        x.create(0, 10, 1, 0, 1, 1);
+        x.move(0, 0, 20, 1);
+        x.join(0, 0, 3, 1);
+        x.sendOne(0, 1, 1);
+        x.sendOne(0, 1, 2);
+        Check.due("two blocked edits", x.send(1, 2), 2);
+        Check.due("one of them", x.state(2, 1), BLOCKED);
+        Check.due("the other one", x.state(2, 2), BLOCKED);
+        Check.due("again", x.send(1, 2), 0);
+        Check.due("only their create is new", x.send(0, 2), 1);
+        Check.due("the move", x.startOf(2, 0), 20);
+        Check.due("the join", x.personsOf(2, 0), 9);
+        Check.due("what the first one still lacks", x.send(2, 1), 1);
     }
 
     // ---- promise 15

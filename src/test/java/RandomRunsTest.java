@@ -2,8 +2,13 @@ import java.util.Random;
 
 /** Promises 1 to 49: long runs of calls, each answer of the class compared with that of the model. */
 public final class RandomRunsTest {
-    private static final int RUNS = 240;
-    private static final int CALLS = 500;
+    private static final int RUNS = 1000;
+    /** What an object is promised to answer; a run ends before a step that could go beyond. */
+    private static final int CALLS = 512;
+    private static final int LONGEST_STEP = 40;
+    /** How often the steps are taken, in the order of the method step. */
+    private static final int[] USUAL = {30, 14, 12, 3, 5, 8, 8, 8, 12};
+    private static final int[] LENGTHY = {40, 20, 20, 5, 2, 3, 1, 1, 1};
     private static final String SIGNS = "0123456789+ rpwex";
 
     private final CalendarReplicas x = new CalendarReplicas();
@@ -11,11 +16,14 @@ public final class RandomRunsTest {
     private final Random random;
     /** A narrow run uses few slots, rooms and persons, so that edits often stand in each other's way. */
     private final boolean narrow;
+    /** A long run asks less between the edits, so that it comes to full calendars with the calls that it has. */
+    private final boolean lengthy;
     private final String name;
 
     private RandomRunsTest(int run) {
         random = new Random(run);
         narrow = run % 3 != 0;
+        lengthy = run % 4 != 0;
         name = "run " + run + ", call ";
     }
 
@@ -27,35 +35,51 @@ public final class RandomRunsTest {
     }
 
     private void run() {
+        int before = Check.calls();
         for (int i = 0; i < 6; i++) {
             setRule(name + i + ": ");
         }
-        for (int call = 6; call < CALLS && !Check.hasFailed(); call++) {
-            String at = name + call + ": ";
-            int kind = random.nextInt(100);
+        for (int step = 6; Check.calls() - before <= CALLS - LONGEST_STEP && !Check.hasFailed(); step++) {
+            String at = name + (Check.calls() - before) + ": ";
             if (m.edits() == 12 && below(12) == 0) {
                 compact(at);
-            } else if (kind < 30) {
-                makeEdit(at);
-            } else if (kind < 44) {
-                exchange(at);
-            } else if (kind < 52) {
-                askMeeting(at);
-            } else if (kind < 72) {
-                askEdit(at);
-            } else if (kind < 80) {
-                findTime(at);
-            } else if (kind < 92) {
-                write(at);
-            } else if (kind < 97) {
-                setRule(at);
             } else {
-                useSlot(at);
+                step(at);
             }
-            if (call % 10 == 0) {
+            if (step % 10 == 0) {
                 Check.due(at + "checksum()", x.checksum(), m.checksum());
             }
         }
+        Check.isTrue(name + "the last one: " + (Check.calls() - before), Check.calls() - before <= CALLS);
+    }
+
+    private void step(String at) {
+        switch (any(lengthy ? LENGTHY : USUAL)) {
+            case 0 -> makeEdit(at);
+            case 1 -> exchange(at);
+            case 2 -> explain(at);
+            case 3 -> useSlot(at);
+            case 4 -> setRule(at);
+            case 5 -> findTime(at);
+            case 6 -> askMeeting(at);
+            case 7 -> askEdit(at);
+            default -> write(at);
+        }
+    }
+
+    /** An index of the row, the higher the number there is, the more often. */
+    private int any(int[] row) {
+        int sum = 0;
+        for (int number : row) {
+            sum += number;
+        }
+        int rest = below(sum);
+        int index = 0;
+        while (rest >= row[index]) {
+            rest -= row[index];
+            index++;
+        }
+        return index;
     }
 
     private int below(int bound) {
@@ -227,7 +251,8 @@ public final class RandomRunsTest {
         Check.due(what + "periodOf", x.periodOf(r, meeting), m.periodOf(r, meeting));
         Check.due(what + "countOf", x.countOf(r, meeting), m.countOf(r, meeting));
         Check.due(what + "print", x.print(r, meeting), m.print(r, meeting));
-        for (int i = -1; i < 24; i++) {
+        int first = below(24) - 1;
+        for (int i = first; i < first + 4; i++) {
             Check.due(what + "printed(" + i + ")", x.printed(i), m.printed(i));
         }
         int index = between(0, 12);
@@ -250,12 +275,18 @@ public final class RandomRunsTest {
         Check.due(what + "authorOf", x.authorOf(edit), m.authorOf(edit));
         Check.due(what + "weightOf", x.weightOf(edit), m.weightOf(edit));
         Check.due(what + "clash with " + other, x.clash(edit, other), m.clash(edit, other));
+        Check.due(what + "acceptedWeight", x.acceptedWeight(r), m.acceptedWeight(r));
+        Check.due(what + "rejectedWeight", x.rejectedWeight(r), m.rejectedWeight(r));
+    }
+
+    private void explain(String at) {
+        int r = replica();
+        int edit = editOf(r);
+        String what = at + "of edit " + edit + " at " + r + ": ";
         Check.due(what + "state", x.state(r, edit), m.state(r, edit));
         Check.due(what + "obstacle", x.obstacle(r, edit), m.obstacle(r, edit));
         Check.due(what + "cost", x.cost(r, edit), m.cost(r, edit));
         Check.due(what + "alternative", x.alternative(r, edit), m.alternative(r, edit));
-        Check.due(what + "acceptedWeight", x.acceptedWeight(r), m.acceptedWeight(r));
-        Check.due(what + "rejectedWeight", x.rejectedWeight(r), m.rejectedWeight(r));
     }
 
     private void findTime(String at) {

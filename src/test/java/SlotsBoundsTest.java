@@ -22,6 +22,7 @@ public final class SlotsBoundsTest {
         restoreOfEmptySlots();
         restoreReturnsTheEdits();
         restoreOfEverything();
+        restoreOfTheBase();
         restoreOfRulesAndOrders();
         restoreOfFourOrders();
         restoreOfTheNextNumber();
@@ -32,6 +33,7 @@ public final class SlotsBoundsTest {
         checksumOfNothing();
         checksumOfEachState();
         checksumOverflows();
+        checksumIsNoConstant();
         checksumOfEachValue();
         Check.end();
     }
@@ -148,6 +150,40 @@ public final class SlotsBoundsTest {
             Check.due("no clash", x.clash(4, 6), 0);
         }
         Check.due("the orders", x.clearOrders(), 2);
+    }
+
+    /** Meanwhile the base has other meetings, or other values of the same ones, and as many of them as before. */
+    private static void restoreOfTheBase() {
+        CalendarReplicas x = made("10+2 r1 p03 e20x2", 0);
+        x.create(0, 50, 3, 2, 4, 1);
+        Check.tellAll(x);
+        x.compact();
+        x.keep(0);
+        x.move(0, 0, 12, 1);
+        x.changeRoom(0, 0, 3, 1);
+        x.resize(0, 0, 4, 1);
+        x.leave(0, 0, 3, 1);
+        x.cancel(0, 1, 1);
+        x.create(0, 80, 5, 0, 32, 1);
+        Check.tellAll(x);
+        Check.due("two other meetings", x.compact(), 2);
+        x.keep(1);
+        x.restore(0);
+        page(x, 0, "10+2 r1 p03 e20x2");
+        page(x, 1, "50+3 r2 p2");
+        page(x, 7, "");
+        x.restore(1);
+        page(x, 0, "12+4 r3 p0 e20x2");
+        page(x, 1, "");
+        page(x, 7, "80+5 r0 p5");
+    }
+
+    /** What is printed of a meeting at each replica; nothing if it is not there. */
+    private static void page(CalendarReplicas x, int meeting, String want) {
+        for (int replica = 0; replica < 3; replica++) {
+            Check.due("print of " + want, x.print(replica, meeting), want.isEmpty() ? BAD : want.length());
+            Check.isTrue("the page of " + want, want.isEmpty() || Check.page(x).equals(want));
+        }
     }
 
     private static void restoreOfRulesAndOrders() {
@@ -389,6 +425,16 @@ public final class SlotsBoundsTest {
             positive |= x.checksum() > 0;
         }
         Check.isTrue("it is negative at times, and positive at others", negative && positive);
+    }
+
+    /** The answer of checksum is negative here, and none of the constants: it has no errors. */
+    private static void checksumIsNoConstant() {
+        CalendarReplicas x = new CalendarReplicas();
+        Check.due("create", x.create(0, 10, 3, 1, 3, 4), 0);
+        Check.due("create", x.create(1, 10, 3, 2, 4, 4), 1);
+        Check.due("send", x.send(0, 1), 1);
+        Check.due("send", x.send(1, 0), 1);
+        Check.due("checksum", x.checksum(), -3308825245121860244L);
     }
 
     private static void differ(String what, CalendarReplicas x, CalendarReplicas y) {
